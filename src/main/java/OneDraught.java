@@ -21,7 +21,7 @@ public final class OneDraught {
     private final Thought thought = new Thought();
     private final byte[] tape = new byte[MOST_TAPE];
     private int tapeLength;
-    private final LawReader reader = new LawReader();
+    private final LawReader reader = new LawReader(tape);
     private final Sheet[] sheets = new Sheet[SHEETS];
     private final Slot[] slots = new Slot[SLOTS];
     private final int[] waiting = new int[MOST_WAITING];
@@ -299,7 +299,7 @@ public final class OneDraught {
     }
 
     public int text() {
-        int fault = reader.faultOf(tape, tapeLength);
+        int fault = reader.faultOf(tapeLength);
         tapeLength = 0;
         if (fault != NONE) {
             return FIRST_FAULT - fault;
@@ -606,22 +606,26 @@ public final class OneDraught {
         }
 
         static int letsOf(int kind, int asDoor, int wide, boolean isOpen) {
+            int asHeavy = asDoor / 2;
+            int asLattice = asDoor + 3;
             switch (kind) {
-                case HEAVY: return asDoor / 2;
-                case VAULT: return isOpen ? letsOf(HEAVY, asDoor, wide, true) : 0;
-                case LATTICE: return asDoor + 3;
-                case SCREEN: return Math.min(10, letsOf(LATTICE, asDoor, wide, isOpen));
+                case HEAVY: return asHeavy;
+                case VAULT: return isOpen ? asHeavy : 0;
+                case LATTICE: return asLattice;
+                case SCREEN: return Math.min(10, asLattice);
                 case FLUE: return wide;
                 default: return asDoor;
             }
         }
 
         static int worthOf(int kind, int wide) {
+            int asHeavy = wide + 20;
+            int asLattice = 30 - wide;
             switch (kind) {
-                case HEAVY: return worthOf(DOOR, wide) + 20;
-                case VAULT: return 2 * worthOf(HEAVY, wide);
-                case LATTICE: return 30 - wide;
-                case SCREEN: return worthOf(LATTICE, wide) - 5;
+                case HEAVY: return asHeavy;
+                case VAULT: return 2 * asHeavy;
+                case LATTICE: return asLattice;
+                case SCREEN: return asLattice - 5;
                 case FLUE: return 2;
                 default: return wide;
             }
@@ -804,7 +808,7 @@ public final class OneDraught {
         private static final int MOST_WITHIN = 8;
         private static final int MOST_DIGITS = 4;
 
-        private byte[] bytes;
+        private final byte[] bytes;
         private int length;
         private int start;
         private int end;
@@ -815,9 +819,12 @@ public final class OneDraught {
         private int codeLength;
         private int fault;
 
-        /** The place of the fault, or NONE. */
-        int faultOf(byte[] tape, int tapeLength) {
+        LawReader(byte[] tape) {
             bytes = tape;
+        }
+
+        /** The place of the fault, or NONE. */
+        int faultOf(int tapeLength) {
             length = tapeLength;
             end = 0;
             sort = END;

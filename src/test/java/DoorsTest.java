@@ -195,6 +195,7 @@ final class DoorsTest {
         Due.due("deal(-1)", x.deal(-1), OneDraught.BAD);
         Due.due("nothing drawn", x.count(8), 1);
         Due.due("deal(10)", x.deal(10), 10);
+        Due.due("deal(1)", new OneDraught().deal(1), 1);
     }
 
     private static void seed() {

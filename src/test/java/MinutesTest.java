@@ -170,6 +170,18 @@ final class MinutesTest {
         }
         Tape.told(x, "gust 9999");
         Due.due("a draught of 1078 is above 999", x.run(1), 1);
+        x = thousand(6000);
+        Due.due("a draught of 1000 is above 999", x.run(1), 1);
+        x = thousand(5980);
+        Due.due("a draught of 996 is not", x.run(1), 0);
+        x = new OneDraught();
+        x.door(5, 0, 8, 1);
+        x.set(0, 0, 2000);
+        x.set(0, 2, 4000);
+        x.set(0, 3, 1);
+        Tape.told(x, "gust 0");
+        Due.due("a draught of 1 is above 0", x.run(1), 1);
+        Due.due("a flow of 1 carries scent", x.room(0, 2), 3998);
         x = new OneDraught();
         x.set(0, 0, 3000);
         x.set(0, 3, 1);
@@ -180,6 +192,19 @@ final class MinutesTest {
         x.set(0, 0, 3100);
         x.set(1, 0, 1000);
         Due.due("21 is", x.run(1), 2);
+    }
+
+    /** Four doors that let 50 each, and a gust as great as can be. */
+    private static OneDraught thousand(int air) {
+        OneDraught x = new OneDraught();
+        for (int i = 0; i < 4; i++) {
+            x.door(0, 0, 1, 1);
+        }
+        x.set(0, 0, air);
+        x.set(0, 3, 1);
+        Tape.told(x, "lets 50");
+        Tape.told(x, "gust 9999");
+        return x;
     }
 
     private static void scents() {

@@ -182,6 +182,15 @@ final class RowsTest {
         Due.due("back without doors", y.back(), 0);
         Due.due("no doors", y.told(0, 0), OneDraught.BAD);
         Due.due("none open", y.count(1), 0);
+        y.door(5, 0, 8, 9);
+        y.door(5, 0, 8, 9);
+        y.wind(0);
+        y.back();
+        y.wind(0);
+        Due.due("no draught by doors that are not there", y.room(0, 4), 0);
+        y.run(1);
+        Due.due("no flow either", y.hall(1), 8000);
+        Due.due("nor to outside", y.hall(0), 0);
     }
 
     private static long state(OneDraught x) {

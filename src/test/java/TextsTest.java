@@ -99,6 +99,12 @@ final class TextsTest {
         fault("(lets 9)", 0);
         fault("lets lets", 5);
         fault("lets ww", 5);
+        fault("lets wa", 5);
+        fault("lets wz", 5);
+        fault("lets w`", 6);
+        fault("lets w{", 6);
+        fault("lets 1:", 6);
+        fault("lets 1/", 7);
         fault("lets f", 5);
         fault("lets s", 5);
         fault("gust w", 5);
@@ -195,6 +201,9 @@ final class TextsTest {
         Due.due("text", x.text(), 0);
         Due.due("used up", x.text(), -100);
         Due.due("texts", x.count(5), 1);
+        Due.due("a fault at a word", Tape.told(x, "lets w w"), -107);
+        Due.due("does not cling to the next", Tape.told(x, "lets w"), 1);
+        Due.due("nor its leaves", x.textTold(1, 1), 1);
     }
 
     private static void textTold() {

@@ -123,6 +123,21 @@ final class ThoughtTest {
         Due.due("birth behind 1: it will", y.birth(0, 5, 1), 1);
         Due.due("d 23 behind 1", y.birth(0, 23, 1), 0);
         Due.due("d 22 behind 1", y.birth(0, 22, 1), 1);
+        OneDraught many = new OneDraught();
+        many.set(0, 0, 2000);
+        for (int i = 0; i < 10; i++) {
+            many.door(0, 0, 1 + i % 7, 1);
+            many.open(i, 1);
+        }
+        Due.due("all of ten", many.birth(0, 0, 0), 1023);
+        Due.due("nine of ten", many.birth(0, 6, 0), 511);
+        Due.due("five of ten", many.birth(0, 30, 0), 31);
+        OneDraught calming = new OneDraught();
+        calming.set(0, 0, 2000);
+        calming.door(0, 0, 1, 9);
+        calming.open(0, 1);
+        Due.due("now counts, not only then", calming.birth(0, 53, 5), 1);
+        Due.due("all MINUTES count", calming.birth(0, 54, 5), 0);
     }
 
     private static void birthByText() {
@@ -159,6 +174,20 @@ final class ThoughtTest {
         Due.due("the one behind it", x.smells(0, 2), 7);
         Due.due("against the stream", x.smells(2, 1), 4);
         Due.due("no doors", x.smells(7, 60), 128);
+        OneDraught turning = new OneDraught();
+        turning.set(1, 0, 1010);
+        turning.set(1, 1, 9);
+        turning.door(0, 0, 1, 9);
+        turning.open(0, 1);
+        // Air of room 1 falls by 9 in each MINUTE: from 0 to 1 it flows when 19 less are there, behind 4
+        Due.due("no flow yet", turning.smells(0, 4), 1);
+        Due.due("a flow by then", turning.smells(0, 5), 3);
+        OneDraught faint = new OneDraught();
+        faint.set(0, 0, 9999);
+        faint.set(1, 0, 9980);
+        faint.door(0, 0, 1, 9);
+        faint.open(0, 1);
+        Due.due("a flow of 1 brings a scent of 1", faint.smells(0, 1), 3);
         OneDraught y = new OneDraught();
         y.wind(0);
         y.set(0, 0, 9999);
@@ -178,6 +207,14 @@ final class ThoughtTest {
         }
         Due.due("both ends", x.snuffs(0, 1), 2);
         Due.due("none by itself", x.snuffs(1, 60), 0);
+        OneDraught late = new OneDraught();
+        late.door(0, 0, 1, 9);
+        late.door(0, 1, 2, 9);
+        late.open(1, 1);
+        late.set(0, 0, 9999);
+        late.set(2, 3, 1);
+        Due.due("not in the first", late.snuffs(0, 1), 0);
+        Due.due("in the second", late.snuffs(0, 2), 1);
         x.open(0, 1);
         Due.due("the same, if it is open", x.snuffs(0, 1), 2);
         x.set(1, 0, 3000);
@@ -252,6 +289,10 @@ final class ThoughtTest {
         Due.due("without a difference too", x.opened(0, 1, 1), 0);
         x.mark(0, 2, 1020);
         Due.due("differences", x.opened(0, 1, 1), 10);
+        x.sheet(1, 0, 1);
+        x.mark(1, 0, 2000);
+        Due.due("room 0 alone", x.opened(1, 1, 0), 2);
+        Due.due("room 0 alone, differences", x.opened(1, 1, 1), 0);
         x.sheet(1, 1, 3);
         x.mark(1, 0, OneDraught.NONE);
         x.mark(1, 1, 1030);
