@@ -247,5 +247,8 @@ final class TextsTest {
         Due.due("the fault stands first", Tape.told(x, "fine"), -104);
         Due.due("fine", x.fine(), 13);
         Due.due("texts", x.count(5), 14);
+        Due.due("the last text", x.textTold(13, 0), 2);
+        Due.due("a text behind the last", x.textTold(14, 0), OneDraught.BAD);
+        Due.due("a text far behind it", x.textTold(15, 1), OneDraught.BAD);
     }
 }
