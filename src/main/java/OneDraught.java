@@ -1265,10 +1265,10 @@ public final class OneDraught {
 
         int likeliestDoor(Hall now, Sheet row, int n) {
             int best = NONE;
-            int least = Integer.MAX_VALUE;
+            int least = 0;
             for (int door = 0; door < now.doors.many; door++) {
                 int difference = differenceWith(now, row, door, n);
-                if (difference < least) {
+                if (best == NONE || difference < least) {
                     best = door;
                     least = difference;
                 }

@@ -2,15 +2,23 @@
 final class Due {
     private static int wrong = 0;
     private static int asked = 0;
+    private static String sentence = "";
 
     private Due() {
+    }
+
+    /** What is asked from now on looks at this sentence, which must stand in the document to the letter. */
+    static void says(String quoted) {
+        sentence = "";
+        holds("the document says: " + quoted, Document.has(quoted));
+        sentence = "[" + quoted + "] ";
     }
 
     static void due(String what, long got, long want) {
         asked++;
         if (got != want) {
             wrong++;
-            System.out.println(what + " answered " + got + ", due is " + want);
+            System.out.println(sentence + what + " answered " + got + ", due is " + want);
         }
     }
 
@@ -18,7 +26,7 @@ final class Due {
         asked++;
         if (!holds) {
             wrong++;
-            System.out.println(what + " does not hold");
+            System.out.println(sentence + what + " does not hold");
         }
     }
 

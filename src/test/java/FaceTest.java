@@ -121,6 +121,7 @@ final class FaceTest {
             String searched = word.equals("java\\.") ? code.replaceAll("import [^;]*;", "") : code;
             Due.holds("without " + word, !Pattern.compile(word).matcher(searched).find());
         }
+        Due.holds("of Integer, Long and Math functions alone", !Pattern.compile("\\b(Integer|Long|Math)\\.[A-Z]").matcher(code).find());
         Due.holds("System only for arraycopy", !Pattern.compile("System\\.(?!arraycopy)").matcher(code).find());
         Due.holds("Arrays only for fill and copies", !Pattern.compile("Arrays\\.(?!fill|copyOf)").matcher(code).find());
     }
