@@ -291,14 +291,8 @@ final class DoorsEdgesTest {
         Due.due("in both of them", two.run(2), 2);
     }
 
-    private static OneDraught atMinute(int minute) {
-        OneDraught x = new OneDraught();
-        for (int i = 0; i < minute / 100; i++) {
-            x.run(100);
-        }
-        if (minute % 100 > 0) {
-            x.run(minute % 100);
-        }
+    private static OneDraught burningAt(int minute) {
+        OneDraught x = Twin.atMinute(minute);
         x.set(0, 0, 9999);
         x.set(0, 1, 9);
         return x;
@@ -308,19 +302,19 @@ final class DoorsEdgesTest {
         int[] ahead = {9898, 9899, 9900, 9998, 9999};
         for (int minute : ahead) {
             int left = Math.min(100, 9999 - minute);
-            OneDraught x = atMinute(minute);
+            OneDraught x = burningAt(minute);
             Due.due("the minute", x.count(2), minute);
             Due.due("no candle", x.run(100), 0);
             Due.due("behind " + minute, x.count(2), minute + left);
             Due.due("minutes that went", x.room(0, 0), 9999 - 9 * left);
         }
-        OneDraught last = atMinute(9999);
+        OneDraught last = burningAt(9999);
         last.door(0, 0, 1, 9);
         last.open(0, 1);
         last.set(0, 3, 1);
         Due.due("no candle goes out any more", last.run(1), 0);
         Due.due("it is lit", last.room(0, 3), 1);
-        Twin.refused("n is looked at all the same", BAD, () -> atMinute(9999), x -> x.run(101));
+        Twin.refused("n is looked at all the same", BAD, () -> burningAt(9999), x -> x.run(101));
     }
 
     private static void footman() {

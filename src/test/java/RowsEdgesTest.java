@@ -124,14 +124,8 @@ final class RowsEdgesTest {
         Due.due("one too many, and wrong", many.check(1), 3);
     }
 
-    private static OneDraught atMinute(int minute) {
-        OneDraught x = new OneDraught();
-        for (int i = 0; i < minute / 100; i++) {
-            x.run(100);
-        }
-        if (minute % 100 > 0) {
-            x.run(minute % 100);
-        }
+    private static OneDraught keptAt(int minute) {
+        OneDraught x = Twin.atMinute(minute);
         x.set(0, 1, 9);
         x.keep();
         return x;
@@ -142,7 +136,7 @@ final class RowsEdgesTest {
         for (int minute : minutes) {
             int left = Math.min(30, 9999 - minute);
             for (int more = -1; more <= 1; more++) {
-                OneDraught x = atMinute(minute);
+                OneDraught x = keptAt(minute);
                 int told = Math.max(0, Math.min(60, 2 * left + more));
                 for (int i = 0; i < told; i++) {
                     x.tell(i % 2 == 0 ? 8000 - 9 * (i / 2 + 1) : 0);
@@ -151,7 +145,7 @@ final class RowsEdgesTest {
                 Due.due("the minute stays", x.count(2), minute);
             }
         }
-        OneDraught back = atMinute(9998);
+        OneDraught back = keptAt(9998);
         back.run(1);
         back.tell(8000 - 9);
         back.tell(0);
@@ -325,7 +319,7 @@ final class RowsEdgesTest {
         x.keep();
         Due.due("to ten", x.back(), 10);
         Due.due("ten are there", x.count(0), 10);
-        OneDraught last = atMinute(9999);
+        OneDraught last = keptAt(9999);
         last.back();
         Due.due("the last minute", last.count(2), 9999);
         OneDraught first = new OneDraught();
@@ -342,7 +336,7 @@ final class RowsEdgesTest {
         int[] first = {0, 0, 0, 1000, 0, 0, 0, 0, 1};
         int[] most = {10, 10, 9999, 9999, 8, 14, 60, 96, Integer.MIN_VALUE};
         OneDraught x = new OneDraught();
-        OneDraught full = atMinute(9999);
+        OneDraught full = keptAt(9999);
         full.deal(10);
         full.wind(9999);
         full.seed(Integer.MIN_VALUE);

@@ -34,16 +34,8 @@ final class ThoughtEdgesTest {
         Twin.tells("fine", x -> x.fine());
     }
 
-    private static OneDraught atTheEnd() {
-        OneDraught x = new OneDraught();
-        for (int i = 0; i < 100; i++) {
-            x.run(100);
-        }
-        return x;
-    }
-
     private static void beyondTheLastMinute() {
-        OneDraught x = atTheEnd();
+        OneDraught x = Twin.atMinute(9999);
         Due.due("the last minute", x.count(2), 9999);
         x.wind(0);
         x.door(5, 0, 8, 1);
@@ -63,7 +55,7 @@ final class ThoughtEdgesTest {
         x.mark(0, 0, 9999 - 9);
         x.mark(0, 1, 1000);
         Due.due("opened", x.opened(0, 1, 0), 1);
-        OneDraught y = atTheEnd();
+        OneDraught y = Twin.atMinute(9999);
         y.door(0, 0, 1, 9);
         y.open(0, 1);
         y.door(0, 1, 8, 9);
@@ -478,7 +470,7 @@ final class ThoughtEdgesTest {
         Due.due("texts of other keys do not count", x.fine(), 9);
         Tape.told(x, "fine 0-9999*9999*9999");
         Due.due("held within nothing", x.fine(), -(9999 * 9999 * 9999));
-        OneDraught last = atTheEnd();
+        OneDraught last = Twin.atMinute(9999);
         Tape.told(last, "fine m");
         Due.due("the last minute", last.fine(), 9999);
     }

@@ -66,6 +66,18 @@ final class Twin {
         x.lay(4, 3, 5);
     }
 
+    /** A new object in which so many MINUTES went. */
+    static OneDraught atMinute(int minute) {
+        OneDraught x = new OneDraught();
+        for (int i = 0; i < minute / 100; i++) {
+            x.run(100);
+        }
+        if (minute % 100 > 0) {
+            x.run(minute % 100);
+        }
+        return x;
+    }
+
     /** The call answers so, and nothing is otherwise than without it. */
     static void refused(String what, int due, Call call) {
         refused(what, due, Twin::furnished, call);
