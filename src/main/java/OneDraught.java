@@ -19,9 +19,7 @@ public final class OneDraught {
     private final Hall image = new Hall();
     private boolean imageKept;
     private final Thought thought = new Thought();
-    private final byte[] tape = new byte[MOST_TAPE];
-    private int tapeLength;
-    private final LawReader reader = new LawReader(tape);
+    private final Tape tape = new Tape();
     private final Sheet[] sheets = new Sheet[SHEETS];
     private final Slot[] slots = new Slot[SLOTS];
     private final int[] waiting = new int[MOST_WAITING];
@@ -274,40 +272,33 @@ public final class OneDraught {
     // ---- texts
 
     public int feed(int a, int b, int c) {
-        if (tapeLength + 12 > MOST_TAPE) {
+        if (tape.length + 12 > MOST_TAPE) {
             return FULL;
         }
-        putBytes(a);
-        putBytes(b);
-        putBytes(c);
-        return tapeLength;
-    }
-
-    private void putBytes(int v) {
-        for (int shift = 24; shift >= 0; shift -= 8) {
-            tape[tapeLength] = (byte) (v >>> shift);
-            tapeLength++;
-        }
+        tape.putBytes(a);
+        tape.putBytes(b);
+        tape.putBytes(c);
+        return tape.length;
     }
 
     public int trim(int n) {
-        if (!isWithin(n, 0, tapeLength)) {
+        if (!isWithin(n, 0, tape.length)) {
             return BAD;
         }
-        tapeLength = n;
+        tape.length = n;
         return n;
     }
 
     public int text() {
-        int fault = reader.faultOf(tapeLength);
-        tapeLength = 0;
+        int fault = tape.faultFound();
+        tape.length = 0;
         if (fault != NONE) {
             return FIRST_FAULT - fault;
         }
         if (now.laws.many >= Laws.MOST) {
             return FULL;
         }
-        return now.laws.add(reader.lawRead());
+        return now.laws.add(tape.lawRead());
     }
 
     public int textTold(int text, int what) {
@@ -552,7 +543,7 @@ public final class OneDraught {
             case 4: return now.litMany();
             case 5: return now.laws.many;
             case 6: return waitingMany;
-            case 7: return tapeLength;
+            case 7: return tape.length;
             case 8: return now.z;
             default: return BAD;
         }
@@ -694,17 +685,17 @@ public final class OneDraught {
             this.code = code;
         }
 
-        /** The stack has a place for each leaf, so that it never runs over. */
+        /** What the reader reads keeps the stack within its ends; they are looked at here all the same. */
         int valueWith(int firstName, int secondName, int[] stack) {
             int top = 0;
             for (int i = 0; i < code.length; i++) {
                 int step = code[i];
-                if (step >= SECOND_NAME) {
+                if (step >= SECOND_NAME && top < stack.length) {
                     stack[top] = step == FIRST_NAME ? firstName : step == SECOND_NAME ? secondName : step;
                     top++;
-                } else if (step == -'!') {
+                } else if (step == -'!' && top >= 1) {
                     stack[top - 1] = stack[top - 1] == 0 ? 1 : 0;
-                } else {
+                } else if (top >= 2) {
                     top--;
                     stack[top - 1] = joined(-step, stack[top - 1], stack[top]);
                 }
@@ -794,8 +785,8 @@ public final class OneDraught {
         }
     }
 
-    /** Reads a tape, word by word, as a text. */
-    private static final class LawReader {
+    /** The tape, and how it is read, word by word, as a text. */
+    private static final class Tape {
         private static final int END = 0;
         private static final int LETTERS = 1;
         private static final int DIGITS = 2;
@@ -808,8 +799,8 @@ public final class OneDraught {
         private static final int MOST_WITHIN = 8;
         private static final int MOST_DIGITS = 4;
 
-        private final byte[] bytes;
-        private int length;
+        private final byte[] bytes = new byte[MOST_TAPE];
+        int length;
         private int start;
         private int end;
         private int sort;
@@ -819,13 +810,16 @@ public final class OneDraught {
         private int codeLength;
         private int fault;
 
-        LawReader(byte[] tape) {
-            bytes = tape;
+        /** The highest byte first. */
+        void putBytes(int v) {
+            for (int shift = 24; shift >= 0 && length < MOST_TAPE; shift -= 8) {
+                bytes[length] = (byte) (v >>> shift);
+                length++;
+            }
         }
 
         /** The place of the fault, or NONE. */
-        int faultOf(int tapeLength) {
-            length = tapeLength;
+        int faultFound() {
             end = 0;
             sort = END;
             leaves = 0;
